@@ -80,43 +80,40 @@ final class KeepingTests {
     }
 
     private static void undoEach(Check check) {
-        ParkingCircle x = three();
-        String before = Circles.state(x);
-        x.prefer(0, 1);
-        undoes(check, x, before);
-        x.prefer(0, 3);
-        undoes(check, x, before);
-        x.swap(1);
-        undoes(check, x, before);
-        x.turn(3);
-        undoes(check, x, before);
-        x.turn(0);
-        undoes(check, x, before);
-        x.setBack(4);
-        undoes(check, x, before);
-        x.setBack(0);
-        undoes(check, x, before);
-        Circles.come(x, "z", 4);
-        undoes(check, x, before);
-        x.go(0);
-        undoes(check, x, before);
-        x.sort();
-        undoes(check, x, before);
-        x.reverse();
-        undoes(check, x, before);
-        Circles.script(x, "back 3;come z 0;");
-        undoes(check, x, before);
-        Circles.script(x, "go z;");
-        undoes(check, x, before);
-        check.same("undone", x.account(4), 13);
-        check.same("none left", x.undo(), -1);
-        check.same("undone", x.account(4), 13);
-        check.same("spots", Circles.spots(x), "3 1 2");
+        undoes(check, x -> x.prefer(0, 1));
+        undoes(check, x -> x.prefer(0, 3));
+        undoes(check, x -> x.swap(1));
+        undoes(check, x -> x.turn(3));
+        undoes(check, x -> x.turn(0));
+        undoes(check, x -> x.setBack(4));
+        undoes(check, x -> x.setBack(0));
+        undoes(check, x -> Circles.come(x, "z", 4));
+        undoes(check, x -> x.go(0));
+        undoes(check, x -> x.sort());
+        undoes(check, x -> x.reverse());
+        undoes(check, x -> Circles.script(x, "back 3;come z 0;"));
+        undoes(check, x -> Circles.script(x, "go z;"));
+        undoes(check, x -> Circles.script(x, "swap c;"));
     }
 
-    private static void undoes(Check check, ParkingCircle x, String before) {
+    private interface Change {
+        void on(ParkingCircle x);
+    }
+
+    private static void undoes(Check check, Change change) {
+        ParkingCircle x = three();
+        change.on(x);
         check.same("undo", x.undo(), 0);
-        check.same("state", Circles.state(x), before);
+        check.same("undone", x.account(4), 1);
+        check.same("state", Circles.state(x), "a b c / 3 1 2 / 0");
+        check.same("spots", Circles.spots(x), "3 1 2");
+        check.same("none left", x.undo(), -1);
+        check.same("undone", x.account(4), 1);
+        x.turn(3);
+        x.setBack(2);
+        change.on(x);
+        check.same("undo", x.undo(), 2);
+        check.same("state", Circles.state(x), "a b c / 2 0 1 / 2");
     }
 
     private static void undoSix(Check check) {

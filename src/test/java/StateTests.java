@@ -168,6 +168,12 @@ final class StateTests {
     private static void gap(Check check) {
         check.same("none", new ParkingCircle().gap(), 0);
         check.same("four", four().gap(), 0);
+        ParkingCircle x = four();
+        check.same("GAP", x.setting(3), 1);
+        check.same("gap", x.gap(), 0);
+        x.prefer(3, 1);
+        check.same("GAP", x.setting(3), 4);
+        check.same("gap behind a change", x.gap(), 0);
         check.same("eleven", eleven().gap(), 0);
         for (int back = 0; back <= 5; back++) {
             check.same("back " + back, Circles.of(back, 3, 0, 0, 3, 3, 6, 6).gap(), 0);

@@ -240,6 +240,8 @@ final class TextTests {
         fails(check, "park 0;carcarcar a 0;", 1, 7);
         fails(check, "park 1;car a 0;carcarcar", 1, 15);
         fails(check, "park 0;0000", 1, 7);
+        fails(check, "park 1;car a 0 abcdefghi", 1, 15);
+        fails(check, "park 1;car a 0 0000", 1, 15);
     }
 
     private static void rangeErrors(Check check) {

@@ -132,6 +132,12 @@ final class TreeTests {
         check.same("none", new ParkingCircle().codeGap(), 0);
         check.same("one car", Circles.of(0, 1).codeGap(), 0);
         check.same("two cars", Circles.of(0, 1, 1).codeGap(), 0);
+        ParkingCircle x = bush();
+        check.same("codeGap", x.codeGap(), 0);
+        check.same("once more", x.codeGap(), 0);
+        x.swap(2);
+        check.same("codeGap behind a change", x.codeGap(), 0);
+        check.same("code behind it", codeOf(x), "4 0 4 1 5 1");
     }
 
     private static void twelveNodes(Check check) {

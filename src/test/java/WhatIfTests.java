@@ -16,6 +16,7 @@ final class WhatIfTests {
         check.test("promise 40: bestBack", WhatIfTests::bestBack);
         check.test("promises 35 to 40: against circles that are so", WhatIfTests::againstOthers);
         check.test("promises 35 to 40: nothing changes", WhatIfTests::nothingChanges);
+        check.test("promises 35 to 40: behind a change", WhatIfTests::behindChange);
     }
 
     private static ParkingCircle four() {
@@ -104,7 +105,11 @@ final class WhatIfTests {
         check.same("with another BACK", Circles.of(5, 2, 2, 0, 2).bestBack(), 1);
         check.same("none", new ParkingCircle().bestBack(), 0);
         check.same("all lucky", Circles.of(4, 0, 1, 2).bestBack(), 0);
-        check.same("2 is best", Circles.of(0, 3, 2, 3, 4, 5, 6, 7).bestBack(), 2);
+        check.same("2", Circles.of(0, 2, 5, 0, 4, 0, 1, 0).bestBack(), 2);
+        check.same("3", Circles.of(0, 1, 5, 3, 2, 6, 0, 3, 2).bestBack(), 3);
+        check.same("4", Circles.of(0, 6, 0, 5, 7, 11, 7, 0, 6, 7, 6, 9).bestBack(), 4);
+        check.same("5", Circles.of(0, 5, 7, 4, 5, 6, 5, 1, 7, 10, 5, 8).bestBack(), 5);
+        check.noArgument("more than 5 is none", () -> new ParkingCircle().wayBy(6));
     }
 
     private static ParkingCircle changed(int[] row, int back, int car, int preference) {
@@ -171,6 +176,27 @@ final class WhatIfTests {
             }
         }
         return best;
+    }
+
+    /** A circle with the row 2 3 0 2 that was another one before. */
+    private static ParkingCircle other() {
+        ParkingCircle x = four();
+        x.prefer(1, 3);
+        return x;
+    }
+
+    private static void behindChange(Check check) {
+        check.same("spotIf", other().spotIf(3, 3), 4);
+        check.same("spotIf", other().spotIf(3, 0), 1);
+        check.same("settingIf", other().settingIf(3, 1, 4), 4);
+        check.same("settingIf", other().settingIf(2, 2, 4), 2);
+        check.same("bestFor", other().bestFor(2), 0);
+        check.same("bestFor", other().bestFor(3), 1);
+        check.same("latest", other().latest(1), 2);
+        check.same("latest", other().latest(0), 2);
+        check.same("wayBy", other().wayBy(0), 2);
+        check.same("wayBy", other().wayBy(1), 1);
+        check.same("bestBack", other().bestBack(), 1);
     }
 
     private static void nothingChanges(Check check) {
