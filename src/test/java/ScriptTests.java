@@ -181,6 +181,9 @@ final class ScriptTests {
         check.noArgument("the buffer is empty", () -> x.truncate(1));
         check.same("undo", x.undo(), 0);
         check.same("undo", x.undo(), -1);
+        Circles.feed(x, "turn 1;repeat 2(repeat 3(turn 2;");
+        check.noArgument("brackets that stay open", () -> x.runScript());
+        does(check, x, "turn 1;", 1, "a b c / 0 2 3 / 0");
     }
 
     private static void fails(Check check, String script, int code, int position) {
