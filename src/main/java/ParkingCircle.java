@@ -48,9 +48,9 @@ public final class ParkingCircle {
     private static final int UNDONE = 4;
     private static final int NUMBER_OF_ACCOUNTS = 5;
 
-    private final Bytes buffer = new Bytes(BUFFER_BYTES);
+    private final Tokens tokens = new Tokens();
+    private final Bytes buffer = tokens.text();
     private final Bytes written = new Bytes(REPORT_BYTES);
-    private final Tokens tokens = new Tokens(buffer);
     private final Script script = new Script();
     private final Cars cars = new Cars();
     /** A row to try things on; no call leaves in it what another one needs. */
@@ -1498,7 +1498,7 @@ public final class ParkingCircle {
         }
     }
 
-    /** The tokens of a text, one at a time, and the first error that is found in it. */
+    /** The buffer, its tokens, one at a time, and the first error that is found in them. */
     private static final class Tokens {
         private static final int END = 0;
         private static final int WORD = 1;
@@ -1506,7 +1506,7 @@ public final class ParkingCircle {
         private static final int MARK = 3;
         private static final int WRONG = 4;
 
-        private final Bytes text;
+        private final Bytes text = new Bytes(BUFFER_BYTES);
         private int kind = END;
         private int start = 0;
         private int next = 0;
@@ -1516,8 +1516,8 @@ public final class ParkingCircle {
         private int wrongCode = 0;
         private int wrongPosition = NONE;
 
-        Tokens(Bytes text) {
-            this.text = text;
+        Bytes text() {
+            return text;
         }
 
         void begin() {
