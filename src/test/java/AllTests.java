@@ -1,4 +1,4 @@
-/** Runs every test of the project; ends with exit code 1 if one fails. Its argument is the path of the program. */
+/** Runs every test of the project; ends with exit code 1 if one fails. Its arguments: paths of program and document. */
 public final class AllTests {
     private AllTests() {
     }
@@ -16,8 +16,22 @@ public final class AllTests {
         EveryRowTests.all(check);
         RandomRunTests.all(check);
         LanguageTests.all(check, args.length > 0 ? args[0] : "src/main/java/ParkingCircle.java");
+        edges(new Sentences(check, args.length > 1 ? args[1] : "../shared/DOC.md"));
         if (!check.finish()) {
             System.exit(1);
         }
+    }
+
+    private static void edges(Sentences sentences) {
+        CircleEdges.all(sentences);
+        CountEdges.all(sentences);
+        TreeEdges.all(sentences);
+        TextEdges.all(sentences);
+        ScriptEdges.all(sentences);
+        StateEdges.all(sentences);
+        WhatIfEdges.all(sentences);
+        ChangeEdges.all(sentences);
+        KeepingEdges.all(sentences);
+        sentences.finish();
     }
 }

@@ -8,6 +8,10 @@ final class Check {
         Object answer() throws Exception;
     }
 
+    interface IntCall {
+        Object answer(int n) throws Exception;
+    }
+
     private int passed = 0;
     private int failed = 0;
     private int wrong = 0;
@@ -54,6 +58,29 @@ final class Check {
 
     void noState(String what, Call call) {
         throwing(what, IllegalStateException.class, call);
+    }
+
+    /** Just the numbers in a range are parameters of an index; there is none if the range is empty. */
+    void onlyIndexes(String what, int from, int to, IntCall call) {
+        only(what, IndexOutOfBoundsException.class, from, to, call);
+    }
+
+    /** Just the numbers in a range are allowed. */
+    void onlyArguments(String what, int from, int to, IntCall call) {
+        only(what, IllegalArgumentException.class, from, to, call);
+    }
+
+    private void only(String what, Class<?> kind, int from, int to, IntCall call) {
+        for (int n = from; n <= to; n++) {
+            try {
+                call.answer(n);
+            } catch (Throwable thrown) {
+                tell(what + " with " + n + " threw " + thrown);
+            }
+        }
+        for (int n : new int[] {from - 1, from - 2, to + 1, to + 2, 1000 + to, Integer.MIN_VALUE, Integer.MAX_VALUE}) {
+            throwing(what + " with " + n, kind, () -> call.answer(n));
+        }
     }
 
     void tell(String what) {

@@ -1,9 +1,8 @@
 import java.nio.charset.StandardCharsets;
+import java.util.Arrays;
 
 /** Makes circles from texts, and tells rows of answers as texts. */
 final class Circles {
-    static final int[] FAR_OFF = {Integer.MIN_VALUE, -100, -2, -1, 12, 13, 100, 1000, Integer.MAX_VALUE};
-
     private Circles() {
     }
 
@@ -45,6 +44,22 @@ final class Circles {
         return read(text.toString());
     }
 
+    /** Cars that all have the same PREFERENCE. */
+    static ParkingCircle alike(int back, int cars, int preference) {
+        int[] preferences = new int[cars];
+        Arrays.fill(preferences, preference);
+        return of(back, preferences);
+    }
+
+    /** Cars with the PREFERENCES 0, 1, 2 .., which are all LUCKY. */
+    static ParkingCircle rising(int cars) {
+        int[] preferences = new int[cars];
+        for (int car = 0; car < cars; car++) {
+            preferences[car] = car;
+        }
+        return of(0, preferences);
+    }
+
     static int script(ParkingCircle x, String text) {
         feed(x, text);
         return x.runScript();
@@ -68,6 +83,23 @@ final class Circles {
         StringBuilder row = new StringBuilder();
         for (int car = 0; car < x.setting(0); car++) {
             row.append(car == 0 ? "" : " ").append(x.car(car, what));
+        }
+        return row.toString();
+    }
+
+    static String settings(ParkingCircle x) {
+        StringBuilder row = new StringBuilder();
+        for (int what = 0; what < 10; what++) {
+            row.append(what == 0 ? "" : " ").append(x.setting(what));
+        }
+        return row.toString();
+    }
+
+    /** The spots of all cars, found the second way. */
+    static String spotsByLine(ParkingCircle x) {
+        StringBuilder row = new StringBuilder();
+        for (int car = 0; car < x.setting(0); car++) {
+            row.append(car == 0 ? "" : " ").append(x.spotByLine(car));
         }
         return row.toString();
     }

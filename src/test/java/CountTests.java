@@ -15,19 +15,13 @@ final class CountTests {
         check.test("promise 34: luckyShare", CountTests::luckyShare);
     }
 
-    private static ParkingCircle alike(int cars, int preference) {
-        int[] preferences = new int[cars];
-        java.util.Arrays.fill(preferences, preference);
-        return Circles.of(0, preferences);
-    }
-
     private static void fibre(Check check) {
         check.same("none", new ParkingCircle().fibre(), 1L);
         check.same("one", Circles.of(0, 1).fibre(), 1L);
         check.same("four", Circles.of(0, 2, 2, 0, 2).fibre(), 6L);
         check.same("with BACK", Circles.of(2, 1, 1, 1).fibre(), 1L);
         check.same("with BACK", Circles.of(1, 1, 2, 1, 1).fibre(), 8L);
-        check.same("eleven", alike(11, 11).fibre(), 39916800L);
+        check.same("eleven", Circles.alike(0, 11, 11).fibre(), 39916800L);
     }
 
     private static void fibreCounted(Check check) {
@@ -53,7 +47,7 @@ final class CountTests {
         check.same("four", Circles.of(0, 2, 2, 0, 2).arrangements(), 4L);
         check.same("two pairs", Circles.of(2, 3, 1, 3, 1).arrangements(), 6L);
         check.same("the last spot, too", Circles.of(0, 4, 4, 4, 0).arrangements(), 4L);
-        check.same("eleven alike", alike(11, 11).arrangements(), 1L);
+        check.same("eleven alike", Circles.alike(0, 11, 11).arrangements(), 1L);
         check.same("eleven", Circles.of(0, 0, 1, 2, 3, 4, 5, 6, 7, 8, 9, 10).arrangements(), 39916800L);
         check.same("eleven, ten spots", Circles.of(0, 0, 0, 2, 3, 4, 5, 6, 7, 8, 9, 11).arrangements(), 19958400L);
     }
@@ -61,7 +55,7 @@ final class CountTests {
     private static void all23(Check check) {
         long[] due = {1L, 1L, 3L, 16L, 125L, 1296L, 16807L, 262144L, 4782969L, 100000000L, 2357947691L, 61917364224L};
         for (int cars = 0; cars < due.length; cars++) {
-            check.same("all of " + cars, alike(cars, 0).all(), due[cars]);
+            check.same("all of " + cars, Circles.alike(0, cars, 0).all(), due[cars]);
         }
         check.same("with BACK", Circles.of(3, 0, 0, 0).all(), 16L);
     }
@@ -74,7 +68,7 @@ final class CountTests {
                     parking++;
                 }
             }
-            check.same("all of " + cars, alike(cars, 0).all(), parking);
+            check.same("all of " + cars, Circles.alike(0, cars, 0).all(), parking);
         }
     }
 
@@ -102,7 +96,7 @@ final class CountTests {
         check.same("four", Circles.of(0, 2, 2, 0, 2).meanWay(), 0.75);
         check.same("back counts as much as on", Circles.of(1, 1, 1, 1).meanWay(), 2.0 / 3.0);
         check.same("back", Circles.of(2, 1, 1, 1).meanWay(), 1.0);
-        check.same("eleven", alike(11, 11).meanWay(), 5.0);
+        check.same("eleven", Circles.alike(0, 11, 11).meanWay(), 5.0);
         check.same("a double", Circles.of(0, 0, 0, 2).meanWay(), 1.0 / 3.0);
         check.same("all lucky", Circles.of(0, 0, 1).meanWay(), 0.0);
     }
@@ -113,6 +107,6 @@ final class CountTests {
         check.same("a third", Circles.of(2, 1, 1, 1).luckyShare(), 1.0f / 3.0f);
         check.same("two thirds", Circles.of(0, 0, 0, 2).luckyShare(), 2.0f / 3.0f);
         check.same("all", Circles.of(0, 0, 1).luckyShare(), 1.0f);
-        check.same("eleven", alike(11, 3).luckyShare(), 1.0f / 11.0f);
+        check.same("eleven", Circles.alike(0, 11, 3).luckyShare(), 1.0f / 11.0f);
     }
 }

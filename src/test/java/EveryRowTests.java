@@ -54,19 +54,11 @@ final class EveryRowTests {
                 for (int back = 0; back <= 5; back++) {
                     ParkingCircle x = Circles.of(back, preferences);
                     check.same("spots", Circles.spots(x), plainSpots(preferences, back));
-                    check.same("spots by line", spotsByLine(x), plainSpots(preferences, back));
+                    check.same("spots by line", Circles.spotsByLine(x), plainSpots(preferences, back));
                     check.same("gap", x.gap(), 0);
                     check.same("codeGap", x.codeGap(), 0);
                 }
             }
         }
-    }
-
-    private static String spotsByLine(ParkingCircle x) {
-        StringBuilder row = new StringBuilder();
-        for (int car = 0; car < x.setting(0); car++) {
-            row.append(car == 0 ? "" : " ").append(x.spotByLine(car));
-        }
-        return row.toString();
     }
 }

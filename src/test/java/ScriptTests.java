@@ -21,11 +21,11 @@ final class ScriptTests {
         check.test("promises 5, 6, 7: code 5, a 31st command", ScriptTests::commandErrors);
     }
 
-    private static ParkingCircle three() {
+    static ParkingCircle three() {
         return Circles.of(0, 3, 1, 2);
     }
 
-    private static void does(Check check, ParkingCircle x, String script, int done, String state) {
+    static void does(Check check, ParkingCircle x, String script, int done, String state) {
         check.same("commands of " + script, Circles.script(x, script), done);
         check.same("state behind " + script, Circles.state(x), state);
         check.same("error of " + script, Circles.error(x), "0 at -1");
@@ -186,7 +186,7 @@ final class ScriptTests {
         does(check, x, "turn 1;", 1, "a b c / 0 2 3 / 0");
     }
 
-    private static void fails(Check check, String script, int code, int position) {
+    static void fails(Check check, String script, int code, int position) {
         ParkingCircle x = three();
         Circles.feed(x, script);
         check.noArgument("runScript of " + script, () -> x.runScript());

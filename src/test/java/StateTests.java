@@ -30,32 +30,24 @@ final class StateTests {
         return Circles.of(0, 11, 11, 11, 11, 11, 11, 11, 11, 11, 11, 11);
     }
 
-    private static String settings(ParkingCircle x) {
-        StringBuilder row = new StringBuilder();
-        for (int what = 0; what < 10; what++) {
-            row.append(what == 0 ? "" : " ").append(x.setting(what));
-        }
-        return row.toString();
-    }
-
     private static void setting(Check check) {
-        check.same("four", settings(four()), "4 5 0 1 2 3 3 3 2 2");
-        check.same("none", settings(new ParkingCircle()), "0 1 0 0 0 0 0 0 0 0");
-        check.same("one", settings(Circles.of(0, 1)), "1 2 0 0 1 0 0 1 1 1");
-        check.same("one at 0", settings(Circles.of(3, 0)), "1 2 3 1 1 0 0 0 1 1");
-        check.same("eleven", settings(eleven()), "11 12 0 10 1 55 55 1 1 1");
-        check.same("all lucky", settings(Circles.of(5, 0, 1, 2, 3, 4, 5, 6, 7, 8, 9, 10)), "11 12 5 11 11 0 0 0 11 11");
+        check.same("four", Circles.settings(four()), "4 5 0 1 2 3 3 3 2 2");
+        check.same("none", Circles.settings(new ParkingCircle()), "0 1 0 0 0 0 0 0 0 0");
+        check.same("one", Circles.settings(Circles.of(0, 1)), "1 2 0 0 1 0 0 1 1 1");
+        check.same("one at 0", Circles.settings(Circles.of(3, 0)), "1 2 3 1 1 0 0 0 1 1");
+        check.same("eleven", Circles.settings(eleven()), "11 12 0 10 1 55 55 1 1 1");
+        check.same("all lucky", Circles.settings(Circles.of(5, 0, 1, 2, 3, 4, 5, 6, 7, 8, 9, 10)), "11 12 5 11 11 0 0 0 11 11");
         for (int what : new int[] {-1, 10, 11, Integer.MIN_VALUE, Integer.MAX_VALUE}) {
             check.noArgument("setting " + what, () -> four().setting(what));
         }
     }
 
     private static void settingWithBack(Check check) {
-        check.same("back 2", settings(Circles.of(2, 1, 1, 1)), "3 4 2 2 1 -3 3 1 1 1");
-        check.same("back 1", settings(Circles.of(1, 1, 1, 1)), "3 4 1 3 1 0 2 0 1 1");
-        check.same("back 1 of four", settings(Circles.of(1, 2, 2, 0, 2)), "4 5 1 4 2 0 2 0 2 2");
-        check.same("as much back as on", settings(Circles.of(5, 0, 0)), "2 3 5 1 1 -1 1 1 1 1");
-        check.same("back 5 of eleven", settings(Circles.of(5, 11, 11, 11, 11, 11, 11, 11, 11, 11, 11, 11)),
+        check.same("back 2", Circles.settings(Circles.of(2, 1, 1, 1)), "3 4 2 2 1 -3 3 1 1 1");
+        check.same("back 1", Circles.settings(Circles.of(1, 1, 1, 1)), "3 4 1 3 1 0 2 0 1 1");
+        check.same("back 1 of four", Circles.settings(Circles.of(1, 2, 2, 0, 2)), "4 5 1 4 2 0 2 0 2 2");
+        check.same("as much back as on", Circles.settings(Circles.of(5, 0, 0)), "2 3 5 1 1 -1 1 1 1 1");
+        check.same("back 5 of eleven", Circles.settings(Circles.of(5, 11, 11, 11, 11, 11, 11, 11, 11, 11, 11, 11)),
                 "11 12 5 5 1 0 30 6 1 1");
     }
 

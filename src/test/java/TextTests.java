@@ -130,7 +130,7 @@ final class TextTests {
         check.same("11 cars", Circles.preferences(Circles.read(text.toString())), "11 10 9 8 7 6 5 4 3 2 1");
     }
 
-    private static void reads(Check check, String text, String state) {
+    static void reads(Check check, String text, String state) {
         ParkingCircle x = Circles.of(4, 1, 2);
         Circles.feed(x, text);
         check.same("cars of " + text, x.readText(), x.setting(0));
@@ -309,7 +309,7 @@ final class TextTests {
         check.same("no error", Circles.error(x), "0 at -1");
     }
 
-    private static void fails(Check check, String text, int code, int position) {
+    static void fails(Check check, String text, int code, int position) {
         ParkingCircle x = Circles.of(2, 1, 0);
         Circles.feed(x, text);
         check.noArgument("readText of " + text, () -> x.readText());

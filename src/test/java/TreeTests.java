@@ -26,7 +26,7 @@ final class TreeTests {
         return Circles.of(0, 3, 7, 3, 7, 4, 1, 2);
     }
 
-    private static String codeOf(ParkingCircle x) {
+    static String codeOf(ParkingCircle x) {
         StringBuilder row = new StringBuilder();
         for (int k = 0; x.code(k) != -1; k++) {
             row.append(k == 0 ? "" : " ").append(x.code(k));
@@ -34,7 +34,7 @@ final class TreeTests {
         return row.toString();
     }
 
-    private static String edgesOf(ParkingCircle x) {
+    static String edgesOf(ParkingCircle x) {
         StringBuilder row = new StringBuilder();
         for (int k = 0; x.edge(k) != -1; k++) {
             row.append(k == 0 ? "" : " ").append(x.edge(k));
@@ -42,7 +42,7 @@ final class TreeTests {
         return row.toString();
     }
 
-    private static String degreesOf(ParkingCircle x) {
+    static String degreesOf(ParkingCircle x) {
         StringBuilder row = new StringBuilder();
         for (int node = 0; node < x.setting(1); node++) {
             row.append(node == 0 ? "" : " ").append(x.degree(node));
