@@ -111,11 +111,19 @@ final class KeepingEdges {
         Circles.script(x, "swap c;");
         Circles.script(x, "go z;");
         check.same("a refused one, one that throws", x.account(0), 41);
+        x.prefer(0, 0);
+        x.swap(0);
+        x.setBack(1);
+        Circles.come(x, "d", 0);
+        x.go(3);
+        x.sort();
+        x.reverse();
+        check.same("each other change", x.account(0), 48);
         x.undo();
         x.save();
         x.restore();
         x.report();
-        check.same("what is no change", x.account(0), 41);
+        check.same("what is no change", x.account(0), 48);
     }
 
     private static void refusals(Check check) {
@@ -181,17 +189,14 @@ final class KeepingEdges {
             return x.runScript();
         });
         check.same("none of these", x.undo(), -1);
-        x.prefer(0, 0);
-        x.swap(0);
-        x.turn(1);
-        x.setBack(1);
-        Circles.come(x, "d", 0);
-        x.go(3);
-        check.same("six of these", Circles.undoAll(x), 6);
-        x.sort();
-        x.reverse();
-        check.same("and two", Circles.undoAll(x), 2);
-        check.same("state", Circles.state(x), "a b c / 3 1 2 / 0");
+        KeepingTests.undoes(check, y -> y.prefer(2, 3));
+        KeepingTests.undoes(check, y -> y.swap(0));
+        KeepingTests.undoes(check, y -> y.turn(99));
+        KeepingTests.undoes(check, y -> y.setBack(5));
+        KeepingTests.undoes(check, y -> Circles.come(y, "d", 4));
+        KeepingTests.undoes(check, y -> y.go(0));
+        KeepingTests.undoes(check, y -> y.sort());
+        KeepingTests.undoes(check, y -> y.reverse());
     }
 
     private static void scriptAsOne(Check check) {
@@ -244,13 +249,15 @@ final class KeepingEdges {
 
     private static void latestSix(Check check) {
         for (int changes = 5; changes <= 14; changes++) {
-            ParkingCircle x = Circles.of(0, 0, 0, 0, 0);
+            ParkingCircle x = Circles.alike(0, 11, 0);
             for (int i = 0; i < changes; i++) {
                 x.turn(1);
             }
-            int kept = Math.min(6, changes);
-            check.same("of " + changes, Circles.undoAll(x), kept);
-            check.same("as before them", x.car(0, 0), (changes - kept) % 5);
+            for (int left = changes - 1; left >= 0 && left >= changes - 6; left--) {
+                x.undo();
+                check.same("undo of " + changes, x.car(0, 0), left % 12);
+            }
+            check.same("none is left of " + changes, x.undo(), -1);
         }
         ParkingCircle y = three();
         for (int i = 0; i < 6; i++) {
@@ -370,6 +377,7 @@ final class KeepingEdges {
         check.noIndex("reportByte", () -> x.reportByte(-1));
     }
 
+    /** The parameter other is one of far() alone, where it is a node, as the tests that are shared ask it, too. */
     private static void existingCars(Check check) {
         for (int cars = 0; cars <= 11; cars += 11) {
             int now = cars;

@@ -96,11 +96,11 @@ final class KeepingTests {
         undoes(check, x -> Circles.script(x, "swap c;"));
     }
 
-    private interface Change {
+    interface Change {
         void on(ParkingCircle x);
     }
 
-    private static void undoes(Check check, Change change) {
+    static void undoes(Check check, Change change) {
         ParkingCircle x = three();
         change.on(x);
         check.same("undo", x.undo(), 0);

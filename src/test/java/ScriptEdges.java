@@ -12,6 +12,8 @@ final class ScriptEdges {
 
     private static void commands(Sentences sentences) {
         sentences.term(6, "{ command \";\" }", ScriptEdges::noCommand);
+        sentences.term(6, "are as the methods prefer(), swap(), turn(), setBack(), go(), sort() and reverse()",
+                ScriptEdges::asTheMethods);
         sentences.term(6, "with the NAME of a car in place of its number", ScriptEdges::namesOfCars);
         sentences.term(6, "\"come\" is as come(), with the NAME of the new car", ScriptEdges::comes);
         sentences.term(6, "Numbers N are 0 to 999", ScriptEdges::numbers);
@@ -67,6 +69,13 @@ final class ScriptEdges {
         fails(check, ";", 1, 0);
     }
 
+    private static void asTheMethods(Check check) {
+        does(check, new ParkingCircle(), "turn 99;back 5;sort;reverse;", 4, " /  / 5");
+        does(check, Circles.of(0, 1), "turn 0;sort;reverse;prefer a 1;back 0;go a;reverse;", 7, " /  / 0");
+        does(check, Circles.rising(11), "reverse;swap k;sort;turn 99;prefer a 11;prefer k 0;", 6,
+                "a b c d e f g h i j k / 11 4 5 6 7 8 9 10 11 0 0 / 0");
+    }
+
     private static void namesOfCars(Check check) {
         does(check, three(), "prefer a 0;prefer c 3;", 2, "a b c / 0 1 3 / 0");
         does(check, three(), "swap a;swap a;", 2, "b c a / 1 2 3 / 0");
@@ -115,6 +124,9 @@ final class ScriptEdges {
         does(check, three(), "repeat 20(turn 1;);repeat 1(turn 1;);", 21, "a b c / 0 2 3 / 0");
         does(check, three(), "repeat 2(repeat 2(turn 1;);repeat 3(turn 1;););", 10, "a b c / 1 3 0 / 0");
         does(check, three(), "repeat 20(repeat 2(turn 1;););", 40, "a b c / 3 1 2 / 0");
+        ParkingCircle x = three();
+        does(check, x, "repeat 2(turn 1;turn 1;);", 4, "a b c / 3 1 2 / 0");
+        does(check, x, "turn 1;turn 1;turn 1;", 3, "a b c / 2 0 1 / 0");
     }
 
     private static void endsAsWhole(Check check) {
@@ -270,6 +282,10 @@ final class ScriptEdges {
         check.same("one that ends early", x.runScript(), 1);
         check.noArgument("behind it", () -> x.truncate(1));
         check.same("preferences", Circles.preferences(x), "1 3 0");
+        Circles.feed(x, "repeat 1(repeat 1(turn 1;");
+        check.noArgument("open brackets", () -> x.runScript());
+        Circles.feed(x, "repeat 1(repeat 1(turn 1;););");
+        check.same("they are not open any more", x.runScript(), 1);
     }
 
     private static void numberDone(Check check) {

@@ -73,6 +73,7 @@ final class StateEdges {
         check.same("no car, the greatest BACK", Circles.settings(Circles.of(5)), "0 1 5 0 0 0 0 0 0 0");
         check.same("one car at 0", Circles.settings(Circles.of(0, 0)), "1 2 0 1 1 0 0 0 1 1");
         check.same("one car at 1", Circles.settings(Circles.of(0, 1)), "1 2 0 0 1 0 0 1 1 1");
+        check.same("fewer BREAKS than spots", Circles.settings(Circles.of(0, 0, 0, 1)), "3 4 0 3 1 2 2 0 1 2");
         check.same("eleven at the last spot", Circles.settings(eleven()), "11 12 0 10 1 55 55 1 1 1");
         check.same("eleven that are LUCKY", Circles.settings(Circles.rising(11)), "11 12 0 11 11 0 0 0 11 11");
     }

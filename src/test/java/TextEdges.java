@@ -55,6 +55,7 @@ final class TextEdges {
                 TextEdges::eachByte);
         sentences.promise(2, "Returns the new number of bytes in the buffer.", TextEdges::newNumber);
         sentences.promise(2, "Throws `IllegalStateException` if it would exceed 400", TextEdges::fullBuffer);
+        sentences.promise(3, "Truncates the buffer.", TextEdges::truncates);
         sentences.promise(3, "Returns this number.", TextEdges::sameNumber);
         sentences.promise(3, "Throws `IllegalArgumentException` if it is negative or greater than the present one",
                 TextEdges::noLength);
@@ -263,7 +264,8 @@ final class TextEdges {
     }
 
     private static void endsTooEarly(Check check) {
-        String[] texts = {"", "park", "park 1", "park 1;back", "park 1;back 2", "park 1;car", "park 1;car a", "park 1;car a 1"};
+        String[] texts = {"", "park", "park 1", "park 1;back", "park 1;back 2", "park 1;car", "park 1;car a", "park 1;car a 1",
+            "park 0;back", "park 0;back 2"};
         for (String text : texts) {
             fails(check, text, 1, text.length());
             fails(check, text + " \n ", 1, text.length() + 3);
@@ -291,6 +293,8 @@ final class TextEdges {
         fails(check, "park 1;car abcdefghi 0;", 1, 11);
         fails(check, "park 1;car a 0000;", 1, 13);
         fails(check, "park 1;car a " + "1".repeat(387), 1, 13);
+        fails(check, "park 1;car a 1 abcdefghi", 1, 15);
+        fails(check, "park 1;car a 1 0000", 1, 15);
         ScriptTests.fails(check, "swap abcdefghi;", 1, 5);
         ScriptTests.fails(check, "turn 0001;", 1, 5);
     }
@@ -375,6 +379,25 @@ final class TextEdges {
         x.truncate(380);
         check.same("380 bytes are there", x.feed(SPACES, SPACES, SPACES, SPACES, SPACES), 400);
         check.same("the text", x.readText(), 0);
+    }
+
+    private static void truncates(Check check) {
+        ParkingCircle x = new ParkingCircle();
+        Circles.feed(x, "park 0;!");
+        x.truncate(8);
+        check.noArgument("no byte less", () -> x.readText());
+        check.same("the last byte", x.errorPosition(), 7);
+        Circles.feed(x, "park 0;!");
+        x.truncate(7);
+        check.same("one byte less", x.readText(), 0);
+        Circles.feed(x, "park 0;!");
+        x.truncate(0);
+        check.noArgument("all bytes less", () -> x.readText());
+        check.same("an empty text", x.errorPosition(), 0);
+        Circles.feed(x, "park 0;!");
+        x.truncate(7);
+        x.feed(SPACES, SPACES, SPACES, SPACES, SPACES);
+        check.same("what is fed then stands behind those that are left", x.readText(), 0);
     }
 
     private static void sameNumber(Check check) {

@@ -173,6 +173,8 @@ final class TreeEdges {
             check.same("in the star", star().far(node, 11), node == 11 ? 0 : 1);
             check.same("over the star", star().far(0, node), node == 0 ? 0 : node == 11 ? 1 : 2);
         }
+        check.same("over the node 0", Circles.of(0, 2, 2, 0, 2).far(1, 3), 2);
+        check.same("from one end over the node 0 to the other one", Circles.of(0, 2, 2, 0, 2).far(1, 4), 4);
     }
 
     private static void wide(Check check) {
@@ -180,6 +182,7 @@ final class TreeEdges {
         check.same("two nodes", Circles.of(0, 1).wide(), 1);
         check.same("the star of twelve", star().wide(), 2);
         check.same("the path of twelve", path().wide(), 11);
+        check.same("between two nodes in the middle of the order", Circles.of(0, 0, 2, 3).wide(), 3);
     }
 
     private static void leaves(Check check) {
@@ -195,5 +198,8 @@ final class TreeEdges {
         check.same("one number", Circles.of(0, 0, 2).codeGap(), 0);
         check.same("the star of twelve", star().codeGap(), 0);
         check.same("the path of twelve", path().codeGap(), 0);
+        ParkingCircle x = star();
+        x.codeGap();
+        check.same("the same one once more", x.codeGap(), 0);
     }
 }

@@ -32,12 +32,21 @@ final class WhatIfEdges {
         sentences.term(7, "the interface says: ---- what would be; nothing changes.", WhatIfEdges::nothingChanges);
     }
 
+    /** Made by changes, so that what was read is not what there is. */
     private static ParkingCircle four() {
-        return Circles.of(0, 2, 2, 0, 2);
+        ParkingCircle x = Circles.of(3, 0, 1, 1, 1);
+        x.setBack(0);
+        x.prefer(0, 1);
+        x.prefer(2, 4);
+        x.turn(1);
+        return x;
     }
 
+    /** Made by a change, too. */
     private static ParkingCircle eleven() {
-        return Circles.alike(0, 11, 11);
+        ParkingCircle x = Circles.alike(0, 11, 0);
+        x.turn(11);
+        return x;
     }
 
     private static void spotIfOutside(Check check) {
@@ -76,6 +85,7 @@ final class WhatIfEdges {
     private static void settingIf(Check check) {
         for (int what = 0; what <= 9; what++) {
             check.same("the PREFERENCE that it has", four().settingIf(3, 2, what), four().setting(what));
+            check.same("four", four().setting(what), Circles.of(0, 2, 2, 0, 2).setting(what));
             check.same("the last spot", four().settingIf(3, 4, what), Circles.of(0, 2, 2, 0, 4).setting(what));
             check.same("the spot 0 of twelve", eleven().settingIf(0, 0, what),
                     Circles.of(0, 0, 11, 11, 11, 11, 11, 11, 11, 11, 11, 11).setting(what));
