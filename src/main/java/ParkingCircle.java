@@ -875,8 +875,10 @@ public final class ParkingCircle {
             kept[MOST_KEPT - 1] = oldest;
             keptCount = MOST_KEPT - 1;
         }
-        kept[keptCount].copyFrom(noted);
-        keptCount++;
+        if (keptCount >= 0 && keptCount < MOST_KEPT) {
+            kept[keptCount].copyFrom(noted);
+            keptCount++;
+        }
     }
 
     private boolean keepNotedIf(boolean isDone) {
@@ -1303,7 +1305,7 @@ public final class ParkingCircle {
             numbers = row.count() > 1 ? row.count() - 1 : 0;
             edges = 0;
             Arrays.fill(weights, 1);
-            for (int k = 0; k < numbers; k++) {
+            for (int k = 0; k < numbers && k < MOST_CARS; k++) {
                 int number = wrapped(row.preferenceOf(k + 1) - row.preferenceOf(k), nodes);
                 code[k] = number;
                 if (isNode(number)) {
@@ -1311,7 +1313,7 @@ public final class ParkingCircle {
                 }
             }
             for (int k = 0; k < numbers; k++) {
-                join(leastOfWeightOne(NONE), code[k]);
+                join(leastOfWeightOne(NONE), numberAt(k));
             }
             int last = leastOfWeightOne(NONE);
             join(last, leastOfWeightOne(last));
@@ -1331,6 +1333,14 @@ public final class ParkingCircle {
             return node >= 0 && node < nodes && node < MOST_SPOTS;
         }
 
+        private boolean isEdge(int k) {
+            return k >= 0 && k < edges && k < MOST_CARS;
+        }
+
+        private boolean isAtEdge(int node, int k) {
+            return isEdge(k) && (leaving[k] == node || staying[k] == node);
+        }
+
         private int leastOfWeightOne(int except) {
             for (int node = 0; node < nodes && node < MOST_SPOTS; node++) {
                 if (weights[node] == 1 && node != except) {
@@ -1341,11 +1351,11 @@ public final class ParkingCircle {
         }
 
         int numberAt(int k) {
-            return k >= 0 && k < numbers ? code[k] : NONE;
+            return k >= 0 && k < numbers && k < MOST_CARS ? code[k] : NONE;
         }
 
         int edgeAt(int k) {
-            if (k < 0 || k >= edges) {
+            if (!isEdge(k)) {
                 return NONE;
             }
             return 100 * Math.min(leaving[k], staying[k]) + Math.max(leaving[k], staying[k]);
@@ -1354,7 +1364,7 @@ public final class ParkingCircle {
         int edgesAt(int node) {
             int found = 0;
             for (int k = 0; k < edges; k++) {
-                if (leaving[k] == node || staying[k] == node) {
+                if (isAtEdge(node, k)) {
                     found++;
                 }
             }
@@ -1378,7 +1388,9 @@ public final class ParkingCircle {
                 distances[node][node] = 0;
             }
             for (int k = edges - 1; k >= 0; k--) {
-                measureFrom(leaving[k], staying[k]);
+                if (isEdge(k)) {
+                    measureFrom(leaving[k], staying[k]);
+                }
             }
         }
 
@@ -1410,7 +1422,7 @@ public final class ParkingCircle {
         }
 
         int differencesOfCodes() {
-            for (int k = 0; k < edges; k++) {
+            for (int k = 0; k < edges && k < MOST_CARS; k++) {
                 isCut[k] = false;
             }
             for (int node = 0; node < nodes && node < MOST_SPOTS; node++) {
@@ -1418,7 +1430,7 @@ public final class ParkingCircle {
             }
             int differences = 0;
             for (int k = 0; k < numbers; k++) {
-                if (cutOff(leastOfWeightOne(NONE)) != code[k]) {
+                if (cutOff(leastOfWeightOne(NONE)) != numberAt(k)) {
                     differences++;
                 }
             }
@@ -1428,15 +1440,20 @@ public final class ParkingCircle {
         /** The weights are here how many edges a node still has. Answers the node to which the one that goes led. */
         private int cutOff(int node) {
             for (int k = 0; k < edges; k++) {
-                if (!isCut[k] && (leaving[k] == node || staying[k] == node)) {
-                    int other = leaving[k] == node ? staying[k] : leaving[k];
+                if (isAtEdge(node, k) && !isCut[k]) {
                     isCut[k] = true;
-                    weights[leaving[k]]--;
-                    weights[staying[k]]--;
-                    return other;
+                    lighten(leaving[k]);
+                    lighten(staying[k]);
+                    return leaving[k] == node ? staying[k] : leaving[k];
                 }
             }
             return NONE;
+        }
+
+        private void lighten(int node) {
+            if (isNode(node)) {
+                weights[node]--;
+            }
         }
     }
 
@@ -1735,19 +1752,33 @@ public final class ParkingCircle {
             if (count >= MOST_COMMANDS) {
                 return tokens.fail(WRONG_NUMBER_OF);
             }
-            int index = count;
-            count++;
-            commands[index] = command;
-            names[index] = NO_NAME;
-            numbers[index] = 0;
-            behind[index] = count;
-            if (!readParts(tokens, command, index) || !tokens.readMark(isRepeat ? '(' : ';')) {
+            if (command.takesName && !tokens.readName()) {
                 return false;
             }
-            if (isRepeat) {
-                openRepeat(index);
+            long name = command.takesName ? tokens.word() : NO_NAME;
+            if (command.takesNumber && !tokens.readNumber(isRepeat ? 1 : 0, isRepeat ? MOST_REPEATS : MOST_NUMBER)) {
+                return false;
             }
+            int number = command.takesNumber ? tokens.number() : 0;
+            if (!tokens.readMark(isRepeat ? '(' : ';')) {
+                return false;
+            }
+            add(command, name, number);
             return true;
+        }
+
+        private void add(Command command, long name, int number) {
+            if (count < 0 || count >= MOST_COMMANDS) {
+                return;
+            }
+            commands[count] = command;
+            names[count] = name;
+            numbers[count] = number;
+            behind[count] = count + 1;
+            if (command == Command.REPEAT) {
+                openRepeat(count);
+            }
+            count++;
         }
 
         private void openRepeat(int index) {
@@ -1764,23 +1795,6 @@ public final class ParkingCircle {
                     behind[open[depth]] = count;
                 }
             }
-        }
-
-        private boolean readParts(Tokens tokens, Command command, int index) {
-            if (command.takesName) {
-                if (!tokens.readName()) {
-                    return false;
-                }
-                names[index] = tokens.word();
-            }
-            if (command.takesNumber) {
-                boolean isRepeat = command == Command.REPEAT;
-                if (!tokens.readNumber(isRepeat ? 1 : 0, isRepeat ? MOST_REPEATS : MOST_NUMBER)) {
-                    return false;
-                }
-                numbers[index] = tokens.number();
-            }
-            return true;
         }
     }
 }
