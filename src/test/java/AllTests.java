@@ -16,6 +16,7 @@ public final class AllTests {
         EveryRowTests.all(check);
         RandomRunTests.all(check);
         LanguageTests.all(check, args.length > 0 ? args[0] : "src/main/java/ParkingCircle.java");
+        ReadmeTests.all(check, "README.md", "src/test/java");
         edges(new Sentences(check, args.length > 1 ? args[1] : "../shared/DOC.md"));
         if (!check.finish()) {
             System.exit(1);
